@@ -152,10 +152,8 @@ public final class RescueBench {
     public int search() {
         files.begin(disk);
         walk.begin(reachNow, true);
-        for (int number = 0; number < makeCount; number++) {
-            for (int first = 0; first < disk.size(); first++) {
-                walk.lookFrom(neededMake(number), number, first);
-            }
+        for (int first = 0; first < disk.size(); first++) {
+            walkFrom(first);
         }
         latestLooks = walk.looks();
         boolean manyFiles = files.areTooMany();
@@ -197,9 +195,7 @@ public final class RescueBench {
     public int torn(int block) throws IndexOutOfBoundsException {
         int first = neededBlock(block);
         walk.begin(reachNow, false);
-        for (int number = 0; number < makeCount; number++) {
-            walk.lookFrom(neededMake(number), number, first);
-        }
+        walkFrom(first);
         return walk.isTooLong() ? NONE : walk.longest();
     }
 
@@ -242,6 +238,15 @@ public final class RescueBench {
         }
     }
 
+    private void walkFrom(int first) {
+        for (int number = 0; number < MAX_MAKES; number++) {
+            Make kind = makes[number];
+            if (kind != null) {
+                walk.lookFrom(kind, number, first);
+            }
+        }
+    }
+
     private Make neededMake(int number) {
         Make kind = number >= 0 && number < MAX_MAKES ? makes[number] : null;
         if (kind == null) {
@@ -276,6 +281,11 @@ public final class RescueBench {
         return (int) (block >>> (BYTE_BITS * (BLOCK_BYTES - 1 - place))) & LAST_BYTE;
     }
 
+    /** Shifted twice, since a shift by all 64 bits would be none. */
+    private static boolean isZeroBehind(long block, int place) {
+        return block << (BYTE_BITS * place) << BYTE_BITS == 0;
+    }
+
     /** How many blocks a file of this length has; its check byte stands behind the data. */
     private static int blocksOf(int length) {
         return (DATA_AT + length) / BLOCK_BYTES + 1;
@@ -290,7 +300,7 @@ public final class RescueBench {
         private final int kindOfCheck;
         private int goalBits;
         private int edges;
-        /** For each byte and each state, the states that edges lead to: quicker in a search than going through edges. */
+        /** For each byte and each state, the states that edges lead to: quicker than going through the edges. */
         private final int[] steps;
 
         Make(int first, int second, int kind) {
@@ -388,17 +398,13 @@ public final class RescueBench {
             return used - 1;
         }
 
-        boolean has(int number) {
-            return number >= 0 && number < used;
-        }
-
         long allOf(int number) {
-            return has(number) ? blocks[number] : 0;
+            return number >= 0 && number < used ? blocks[number] : 0;
         }
 
         long exchange(int number, long bytes) {
             long before = allOf(number);
-            if (has(number)) {
+            if (number >= 0 && number < used) {
                 blocks[number] = bytes;
             }
             return before;
@@ -570,12 +576,17 @@ public final class RescueBench {
         }
 
         int sizeOf(int k) {
-            return blocksOf(lengthOf(k));
+            int size = 0;
+            while (size < MAX_ROW && blockOf(k, size) != NONE) {
+                size++;
+            }
+            return size;
         }
 
         int costOf(int k) {
             int sum = 0;
-            for (int i = 1; i < sizeOf(k); i++) {
+            int size = sizeOf(k);
+            for (int i = 1; i < size; i++) {
                 sum += Math.abs(blockOf(k, i) - (blockOf(k, i - 1) + 1));
             }
             return sum;
@@ -583,7 +594,8 @@ public final class RescueBench {
 
         int blockBitsOf(int k) {
             int bits = 0;
-            for (int i = 0; i < sizeOf(k); i++) {
+            int size = sizeOf(k);
+            for (int i = 0; i < size; i++) {
                 bits |= 1 << blockOf(k, i);
             }
             return bits;
@@ -697,41 +709,45 @@ public final class RescueBench {
 
         /** Whether a row that fits goes on fitting with this block behind it. */
         private boolean fits(Make kind, int size, int block) {
-            states = size == 0 ? Make.START : statesBehind[size - 1];
-            check = size == 0 ? 0 : checkBehind[size - 1];
             long all = disk.allOf(block);
-            for (int i = 0; i < BLOCK_BYTES; i++) {
-                if (!reads(kind, size * BLOCK_BYTES + i, byteOf(all, i))) {
-                    return false;
-                }
+            if (size == 0 && !readsHead(kind, all)) {
+                return false;
+            }
+            int dataLeft = checkAt - size * BLOCK_BYTES;
+            int end = Math.min(dataLeft, BLOCK_BYTES);
+            boolean hasCheck = dataLeft < BLOCK_BYTES;
+            // Asked ahead of the data, since this is the quickest way to see that a block is no last one.
+            if (hasCheck && !isZeroBehind(all, end)) {
+                return false;
+            }
+            readAheadOfCheck(kind, size, all, end);
+            boolean right = dataLeft <= BLOCK_BYTES ? kind.mayEndIn(states) : states != 0;
+            if (!right || (hasCheck && byteOf(all, end) != check)) {
+                return false;
             }
             statesBehind[size] = states;
             checkBehind[size] = check;
             return true;
         }
 
-        private boolean reads(Make kind, int place, int value) {
-            // Ahead of the data, checkAt may still be that of another row.
-            if (place >= DATA_AT && place >= checkAt) {
-                return value == (place == checkAt ? check : 0);
-            }
-            check = kind.checkWith(check, value);
-            if (place < DATA_AT) {
-                return readsHead(kind, place, value);
-            }
-            states = kind.stepFrom(states, value);
-            return states != 0 && (place + 1 < checkAt || kind.mayEndIn(states));
+        private boolean readsHead(Make kind, long all) {
+            int length = byteOf(all, LENGTH_AT);
+            checkAt = DATA_AT + length;
+            return byteOf(all, 0) == kind.firstHead() && byteOf(all, 1) == kind.secondHead() && length <= MAX_LENGTH;
         }
 
-        private boolean readsHead(Make kind, int place, int value) {
-            if (place < LENGTH_AT) {
-                return value == (place == 0 ? kind.firstHead() : kind.secondHead());
+        /** Reads what a block has ahead of the check, from where the row ahead of it ended. */
+        private void readAheadOfCheck(Make kind, int size, long all, int end) {
+            states = size == 0 ? Make.START : statesBehind[size - 1];
+            check = size == 0 ? 0 : checkBehind[size - 1];
+            int dataAt = size == 0 ? DATA_AT : 0;
+            for (int i = 0; i < end && states != 0; i++) {
+                int value = byteOf(all, i);
+                check = kind.checkWith(check, value);
+                if (i >= dataAt) {
+                    states = kind.stepFrom(states, value);
+                }
             }
-            if (value > MAX_LENGTH) {
-                return false;
-            }
-            checkAt = DATA_AT + value;
-            return value > 0 || kind.mayEndIn(states);
         }
     }
 

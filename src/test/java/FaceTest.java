@@ -52,7 +52,8 @@ public final class FaceTest {
 
     private static void face() {
         Class<?> bench = RescueBench.class;
-        Due.holds("public and final", Modifier.isPublic(bench.getModifiers()) && Modifier.isFinal(bench.getModifiers()));
+        Due.holds("public", Modifier.isPublic(bench.getModifiers()));
+        Due.holds("final", Modifier.isFinal(bench.getModifiers()));
         Set<String> seen = new TreeSet<>();
         for (Method method : bench.getDeclaredMethods()) {
             if (Modifier.isPublic(method.getModifiers())) {
@@ -142,7 +143,7 @@ public final class FaceTest {
         methodsAreShort(source);
     }
 
-    /** A method begins with a line that opens a brace at the depth of members, and ends with the brace that closes it. */
+    /** A method begins with a line that opens a brace at the depth of members, and ends where that is closed. */
     private static void methodsAreShort(String source) {
         String[] lines = source.split("\n");
         for (int i = 0; i < lines.length; i++) {

@@ -159,6 +159,8 @@ public final class SearchTest {
         Given.fileIs(x, 1, 0, 1, 0, 2);
         Due.same("cost up", x.file(0, 2), 0);
         Due.same("cost down and up", x.file(1, 2), 2 + 1);
+        Due.same("sure, though the other has its first block further on", x.file(0, 3), 1);
+        Due.same("so is the other", x.file(1, 3), 1);
         Due.same("looks", x.count(5), 3 + 2 * (2 + 1 + 1));
     }
 
