@@ -129,6 +129,10 @@ public final class CallsTest {
         Due.badArgument("8 to 7", Given::desk, y -> y.edge(0, 0, 8, 7, 0));
         Due.badArgument("255 to 0", Given::desk, y -> y.edge(0, 0, 255, 0, 0));
         Due.badArgument("of 40, too: 8 to 7", edges(40), y -> y.edge(0, 0, 8, 7, 0));
+        notInForce(0, y -> y.edge(0, 0, 100, 256, 0));
+        notInForce(0, y -> y.edge(0, 0, -1, 100, 0));
+        notInForce(0, y -> y.edge(0, 0, 100, 99, 0));
+        notInForce(0, y -> y.edge(0, 16, 100, 100, 0));
         Due.same("7 to 7", Given.desk().edge(0, 15, 7, 7, 15), 2);
         Due.same("0 to 255", Given.desk().edge(0, 0, 0, 255, 15), 2);
         Due.by("IllegalStateException: there are 40.");
@@ -136,6 +140,23 @@ public final class CallsTest {
         Due.badState("the 41st", edges(40), y -> y.edge(0, 0, 0, 0, 0));
         Due.badState("the 41st, as wide as can be", edges(40), y -> y.edge(0, 15, 0, 255, 15));
         Due.same("another make's first", edges(40).get().edge(1, 0, 0, 0, 0), 1);
+        notInForce(40, y -> y.edge(0, 0, 100, 100, 0));
+    }
+
+    /** That no edge of a refused call reads a byte: 100 is not right, whatever its edge was to be. */
+    private static void notInForce(int edges, ToLongFunction<RescueBench> refused) {
+        RescueBench x = new RescueBench();
+        x.make(1, 2, 0);
+        x.goals(0, 65535);
+        for (int i = 0; i < edges; i++) {
+            x.edge(0, 1, i, i, 1);
+        }
+        try {
+            Due.same("an edge that is to be refused", refused.applyAsLong(x), Long.MIN_VALUE);
+        } catch (IllegalArgumentException | IllegalStateException e) {
+            x.push(100);
+            Due.same("a byte of a refused edge", x.write(0), -1);
+        }
     }
 
     private interface MakeCall {

@@ -71,6 +71,47 @@ public final class CoversTest {
         Given.bestIs(z, 0, 0);
         RescueBench all = bench(4, ALONE, ALONE, ALONE, HEAD, END);
         Given.bestIs(all, 5, 0, 0, 1, 2, 3);
+        twoAgainstThree();
+        ofTheLatestSearch();
+    }
+
+    /** The file [0, 2, 3] has the most blocks of one; but [1, 2] and [4, 3], which it stands in the way of, more. */
+    private static void twoAgainstThree() {
+        RescueBench x = Given.open(Given.SUM);
+        Given.openMake(x, 3, 4, Given.XOR);
+        int end = 3 ^ 4 ^ 5;
+        int last = Given.checkOf(Given.SUM, A, B, 20, end, 7 * 9);
+        x.block(Given.block(A, B, 20));
+        x.block(Given.block(3, 4, 5));
+        x.block(Given.block(end));
+        x.block(Given.block(9, 9, 9, 9, 9, 9, 9, last));
+        x.block(Given.block(A, B, 12, 20 + end - 12));
+        Due.same("files", x.search(), 3);
+        Given.fileIs(x, 0, 0, 0, 2, 3);
+        Given.fileIs(x, 1, 1, 1, 2);
+        Given.fileIs(x, 2, 0, 4, 3);
+        Given.bestIs(x, 4, 2, 1, 2);
+        Given.nobodyIs(x, 0);
+    }
+
+    /** Nothing of an earlier search with more first blocks is left. */
+    private static void ofTheLatestSearch() {
+        RescueBench x = bench(4, ALONE, ALONE, ALONE, ALONE, ALONE, ALONE);
+        Given.bestIs(x, 6, 0, 0, 1, 2, 3, 4, 5);
+        x.change(0, HEAD);
+        x.change(1, HEAD);
+        for (int block = 2; block < 6; block++) {
+            x.change(block, block < 4 ? END : Given.JUNK);
+        }
+        Given.bestIs(x, 6, 0, 0, 1, 2, 3, 4, 5);
+        Due.same("files", x.search(), 4);
+        Given.bestIs(x, 4, 2, 0, 3);
+        x.change(1, Given.JUNK);
+        Due.same("fewer files", x.search(), 2);
+        Given.bestIs(x, 2, 1, 0);
+        x.change(0, Given.JUNK);
+        Due.same("no files", x.search(), 0);
+        Given.bestIs(x, 0, 0);
     }
 
     private static void leastCost() {

@@ -302,6 +302,15 @@ public final class RowsTest {
         Given.fileIs(x, 2, 1, 1, 2);
         Given.fileIs(x, 3, 2, 1, 2);
         Given.fileIs(x, 4, 0, 3);
+        // The blocks are asked ahead of it: the second make's row is [0, 1], the first one's [0, 2].
+        RescueBench y = Given.open(Given.SUM);
+        Given.openMake(y, A, B, Given.XOR);
+        y.block(Given.block(A, B, 5));
+        y.block(Given.block(A ^ B ^ 5));
+        y.block(Given.block(A + B + 5));
+        Due.same("files", y.search(), 2);
+        Given.fileIs(y, 0, 1, 0, 1);
+        Given.fileIs(y, 1, 0, 0, 2);
     }
 
     /** F: a block that begins a file of five, and is data as well; D: data; N: neither. */
