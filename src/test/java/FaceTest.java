@@ -13,44 +13,29 @@ import java.util.regex.Pattern;
 
 /** The public face as the document gives it, and what of shared/LANGUAGE.md can be seen from outside. */
 public final class FaceTest {
-    private static final String I = "IndexOutOfBoundsException";
-    private static final String A = "IllegalArgumentException";
-    private static final String S = "IllegalStateException";
-
-    private static final Set<String> FACE = new TreeSet<>(List.of(
-            "int make(int, int, int) throws " + A + ", " + S,
-            "int edge(int, int, int, int, int) throws " + I + ", " + A + ", " + S,
-            "int goals(int, int) throws " + I + ", " + A,
-            "int block(long)",
-            "long change(int, long) throws " + I,
-            "long bytes(int) throws " + I,
-            "int reach(int) throws " + A,
-            "int push(int) throws " + A,
-            "int write(int) throws " + I,
-            "int search()",
-            "int file(int, int) throws " + I + ", " + A,
-            "int data(int, int) throws " + I,
-            "int torn(int) throws " + I,
-            "int best()",
-            "int cost()",
-            "int covers(int)",
-            "int nobody(int)",
-            "int check(int) throws " + I,
-            "int count(int)"));
+    /** A method in the document's face: what it answers, its name, its parameters, what it throws. */
+    private static final Pattern METHOD =
+            Pattern.compile("public (int|long) (\\w+)\\(([^)]*)\\)( throws [\\w, ]+)?;");
 
     private static final int LONGEST_METHOD = 60;
     private static final int MOST_CLASSES = 12;
     private static final int MOST_FIELDS = 20;
 
     public static void main(String[] args) throws IOException {
-        face();
+        Path root = Path.of(System.getProperty("rescue.root", "."));
+        face(Files.readString(root.resolve("../shared/DOC.md")));
         nothingElseIsSeen();
         classesInside();
-        text(Files.readString(Path.of(System.getProperty("rescue.root", "."), "src/main/java/RescueBench.java")));
+        text(Files.readString(root.resolve("src/main/java/RescueBench.java")));
         Due.end();
     }
 
-    private static void face() {
+    private static void face(String document) {
+        Set<String> face = faceOf(document.substring(document.indexOf("```java"), document.indexOf("## Terms")));
+        Set<String> promised = faceOf(document.substring(document.indexOf("## Promise 1:")).replaceAll(
+                "(?m)^`([^`]*)`:", "public $1;"));
+        Due.same("methods of the face", face.size(), 19);
+        Due.holds("the promises are of " + promised, promised.equals(face));
         Class<?> bench = RescueBench.class;
         Due.holds("public", Modifier.isPublic(bench.getModifiers()));
         Due.holds("final", Modifier.isFinal(bench.getModifiers()));
@@ -61,7 +46,18 @@ public final class FaceTest {
                 seen.add(told(method));
             }
         }
-        Due.holds("the face is " + seen, seen.equals(FACE));
+        Due.holds("the face is " + seen, seen.equals(face));
+    }
+
+    private static Set<String> faceOf(String words) {
+        Set<String> all = new TreeSet<>();
+        Matcher methods = METHOD.matcher(words);
+        while (methods.find()) {
+            String types = methods.group(3).replaceAll("(int|long) \\w+", "$1");
+            String thrown = methods.group(4) == null ? "" : methods.group(4);
+            all.add(methods.group(1) + " " + methods.group(2) + "(" + types + ")" + thrown);
+        }
+        return all;
     }
 
     private static String told(Method method) {
